@@ -53,6 +53,7 @@ public final class GrassPark {
     private static final int BY_TURN = 4;
     private static final int BY_COME = 5;
     private static final int BY_LINE = 6;
+    private static final int MEASURES = 7;
 
     /** What a COND asks of a CELL; the last three join what was asked. */
     private static final int ASK_KIND = 0;
@@ -668,8 +669,6 @@ public final class GrassPark {
         final int[] high = new int[CODES];
         int lines;
         int codes;
-        /** The LINES that are 'never', as bits. */
-        int nevers;
         int line;
         int mud;
         int dry;
@@ -682,7 +681,6 @@ public final class GrassPark {
         void clear() {
             lines = 0;
             codes = 0;
-            nevers = 0;
             line = 40;
             mud = 50;
             dry = 10;
@@ -900,7 +898,6 @@ public final class GrassPark {
             }
             goOn();
             text.stop[i] = text.codes;
-            text.nevers |= what == NEVER ? 1 << i : 0;
             text.lines++;
             return true;
         }
@@ -1262,13 +1259,18 @@ public final class GrassPark {
 
     /** What moves a PARK on: WALKERS by their HABITS, wear by the LAW, WEEKS. */
     private static final class Walk {
+        static final int MAY_COME = 0;
+        static final int REFUSED = 1;
+
         final Grid grid = new Grid();
         final Text[] habits = new Text[HABITS];
         Text law = new Text();
         /** A text is read into this one, so that a FAULT spoils none that stands. */
         Text spare = new Text();
-        /** Of each HABIT and CELL the LINES whose CONDS hold, as bits; NONE: to be looked at anew. */
-        final int[][] holding = new int[HABITS][CELLS];
+        /** What a HABIT says of a CELL, 256 for each HABIT: NONE, if it is to be looked at anew. */
+        final int[] verdict = new int[HABITS * CELLS];
+        /** The NUMBERS of the LINES that hold there, added for each MEASURE. */
+        final int[][] sums = new int[MEASURES][HABITS * CELLS];
         final Walker single = new Walker();
         Land land;
         boolean alone;
@@ -1295,9 +1297,7 @@ public final class GrassPark {
         }
 
         private void forget() {
-            for (int h = 0; h < HABITS; h++) {
-                Arrays.fill(holding[h], NONE);
-            }
+            Arrays.fill(verdict, NONE);
         }
 
         boolean worn(int c) {
@@ -1387,7 +1387,7 @@ public final class GrassPark {
             land.trod[c]++;
             land.snow[c]++;
             for (int h = 0; h < HABITS; h++) {
-                holding[h][c] = NONE;
+                verdict[CELLS * h + c] = NONE;
             }
             if (c == watched) {
                 watchedTrod = true;
@@ -1439,18 +1439,20 @@ public final class GrassPark {
             if (best != NONE) {
                 return best;
             }
-            Text text = habits[habit];
             int least = 0;
             for (int d = 0; d < EIGHT; d++) {
                 int c = grid.beside[EIGHT * one.cell + d];
                 if (c == NONE || !land.open(c)) {
                     continue;
                 }
-                int lines = linesOf(habit, c);
-                if ((lines & text.nevers) != 0) {
+                int at = CELLS * habit + c;
+                if (verdict[at] == NONE) {
+                    look(habits[habit], at, c);
+                }
+                if (verdict[at] == REFUSED) {
                     continue;
                 }
-                int weight = grid.distance(c, goal) + weigh(text, lines, one, c, d);
+                int weight = grid.distance(c, goal) + weigh(one, at, d, habits[habit].sight);
                 if (best == NONE || weight < least) {
                     best = d;
                     least = weight;
@@ -1459,44 +1461,40 @@ public final class GrassPark {
             return best;
         }
 
-        private int linesOf(int habit, int c) {
-            int bits = holding[habit][c];
-            if (bits == NONE) {
-                Text text = habits[habit];
-                bits = 0;
-                for (int i = 0; i < text.lines; i++) {
-                    bits |= holds(text, i, c) ? 1 << i : 0;
-                }
-                holding[habit][c] = bits;
+        /** Keeps what a HABIT says of a CELL: it stays so until the CELL changes. */
+        private void look(Text text, int at, int c) {
+            verdict[at] = MAY_COME;
+            for (int m = 0; m < MEASURES; m++) {
+                sums[m][at] = 0;
             }
-            return bits;
+            for (int i = 0; i < text.lines; i++) {
+                boolean asks = text.what[i] == WEIGH || text.what[i] == NEVER;
+                if (asks && holds(text, i, c)) {
+                    if (text.what[i] == NEVER) {
+                        verdict[at] = REFUSED;
+                    } else {
+                        sums[text.measure[i]][at] += text.number[i];
+                    }
+                }
+            }
         }
 
-        private int weigh(Text text, int lines, Walker one, int c, int d) {
+        /** What the 'weigh' LINES add for a WALKER's step on a CELL that was looked at. */
+        private int weigh(Walker one, int at, int d, int sight) {
+            int c = at % CELLS;
             int weight = 0;
-            for (int i = 0; i < text.lines; i++) {
-                if ((lines >> i & 1) == 0 || text.what[i] != WEIGH || text.number[i] == 0) {
-                    continue;
-                }
-                if (text.measure[i] == BY_LINE) {
-                    weight -= text.number[i] * wornAhead(c, d, text.sight);
-                } else {
-                    weight += text.number[i] * measure(text.measure[i], one, c, d);
-                }
+            if (sums[BY_GREEN][at] > 0 && land.green(c)) {
+                weight += sums[BY_GREEN][at] * (Math.max(0, law.line - land.wear[c]) / 10);
+            }
+            weight += sums[BY_WET][at] * (land.wet[c] / 10);
+            weight += sums[BY_CLIMB][at] * Math.abs(land.height[c] - land.height[one.cell]);
+            weight += alone ? 0 : sums[BY_CROWD][at] * land.crowd[c];
+            weight += one.way != NONE && one.way != d ? sums[BY_TURN][at] : 0;
+            weight += one.came == c ? sums[BY_COME][at] : 0;
+            if (sums[BY_LINE][at] > 0) {
+                weight -= sums[BY_LINE][at] * wornAhead(c, d, sight);
             }
             return weight;
-        }
-
-        private int measure(int by, Walker one, int c, int d) {
-            switch (by) {
-                case BY_GREEN: return land.green(c) && !worn(c) ? (law.line - land.wear[c]) / 10 : 0;
-                case BY_WET: return land.wet[c] / 10;
-                case BY_CLIMB: return Math.abs(land.height[c] - land.height[one.cell]);
-                case BY_CROWD: return alone ? 0 : land.crowd[c];
-                case BY_TURN: return one.way != NONE && one.way != d ? 1 : 0;
-                case BY_COME: return one.came == c ? 1 : 0;
-                default: return 0;
-            }
         }
 
         private int wornAhead(int c, int d, int sight) {
