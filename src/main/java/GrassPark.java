@@ -776,16 +776,15 @@ public final class GrassPark {
             tokens = 0;
             while (at < end) {
                 int c = tape.bytes[at];
+                int next = at + 1;
                 if (c != ' ' && c != '\n') {
-                    int t = oneToken(at);
-                    at = stops[tokens];
+                    next = Math.max(next, tokenAt(at));
                     tokens++;
-                    if (t == NO_TOKEN) {
+                    if (types[tokens - 1] == NO_TOKEN) {
                         return;
                     }
-                } else {
-                    at++;
                 }
+                at = next;
             }
             types[tokens] = END;
             starts[tokens] = end;
@@ -793,13 +792,13 @@ public final class GrassPark {
             tokens++;
         }
 
-        private int oneToken(int at) {
+        /** Keeps what begins at a byte that is no blank; answers where it stops. */
+        private int tokenAt(int at) {
             int letters = 0;
             int digits = 0;
             int value = 0;
             int stop = at;
-            boolean goesOn = true;
-            while (stop < tape.length && goesOn) {
+            while (stop < tape.length) {
                 int c = tape.bytes[stop];
                 if (within(c, 'a', 'z')) {
                     letters++;
@@ -807,9 +806,9 @@ public final class GrassPark {
                     digits++;
                     value = digits <= 3 ? 10 * value + c - '0' : value;
                 } else {
-                    goesOn = false;
+                    break;
                 }
-                stop += goesOn ? 1 : 0;
+                stop++;
             }
             int t = NO_TOKEN;
             if (stop == at) {
@@ -824,7 +823,7 @@ public final class GrassPark {
             starts[tokens] = at;
             stops[tokens] = stop;
             values[tokens] = value;
-            return t;
+            return stop;
         }
 
         private int signAt(int at) {
@@ -1556,7 +1555,7 @@ public final class GrassPark {
         final int[] price = new int[CELLS];
         /** For the first DOORS, as bits, and each CELL: the least cost of what joins them and that CELL. */
         final int[][] joined = new int[1 << MOST_NET_DOORS - 1][CELLS];
-        Walk walk;
+        final Walk walk;
 
         Net(Walk first) {
             walk = first;
