@@ -117,18 +117,18 @@ public final class GrassPark {
     }
 
     public boolean park(int w, int h) {
-        if (!within(w, SIDE_MIN, SIDE_MAX) || !within(h, SIDE_MIN, SIDE_MAX)) {
-            return false;
+        boolean told = tapeTellsPark(w, h);
+        if (told) {
+            land.renew(w, h, tape);
         }
-        if (tape.length != w * h || !tapeTellsCells()) {
-            return false;
-        }
-        land.renew(w, h, tape);
         tape.length = 0;
-        return true;
+        return told;
     }
 
-    private boolean tapeTellsCells() {
+    private boolean tapeTellsPark(int w, int h) {
+        if (!within(w, SIDE_MIN, SIDE_MAX) || !within(h, SIDE_MIN, SIDE_MAX) || tape.length != w * h) {
+            return false;
+        }
         for (int i = 0; i < tape.length; i++) {
             if ((tape.bytes[i] & 7) > FENCE) {
                 return false;

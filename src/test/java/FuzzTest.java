@@ -112,6 +112,7 @@ public final class FuzzTest {
         }
         t.tape(b.toString());
         call(t, "park", odd(w), odd(h));
+        call(t, "count", 9);
         int doors = between(2, 7);
         for (int i = 0; i < doors; i++) {
             call(t, "door", odd(cell(t)));

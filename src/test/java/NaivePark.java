@@ -659,13 +659,13 @@ final class NaivePark {
     }
 
     boolean park(int w, int h) {
-        if (w < 4 || w > 16 || h < 4 || h > 16 || tape.size() != w * h) {
-            return false;
-        }
-        if (tape.stream().anyMatch(b -> b % 8 == 7)) {
-            return false;
-        }
         List<Integer> t = taken();
+        if (w < 4 || w > 16 || h < 4 || h > 16 || t.size() != w * h) {
+            return false;
+        }
+        if (t.stream().anyMatch(b -> b % 8 == 7)) {
+            return false;
+        }
         s = new State(w, h);
         for (int c = 0; c < w * h; c++) {
             s.kind[c] = t.get(c) % 8;

@@ -123,19 +123,7 @@ public final class PromisesTest {
         p.rain(50);
         p.run(6);
         String cells = "\0\1\2\3\4\5\6\10\20\360\376\0\0\0\0\0";
-        Check.tape(p, cells);
-        due("park: too few rows", p.park(4, 3), false);
-        due("park: not as many", p.park(5, 4), false);
-        due("park: below", p.park(3, 4), false);
-        due("park: odd", p.park(-4, -4), false);
-        due("park: far", p.park(1 << 16, 1 << 16), false);
-        due("park: all stays", p.count(9), 16);
-        due("park: doors stay", p.count(2), 2);
-        due("park: walkers stay", p.count(4), 3);
-        due("park: tick stays", p.count(5), 6);
-        Check.tape(p, cells.substring(0, 15) + "\7");
-        due("park: no such kind", p.park(4, 4), false);
-        due("park: all stays", p.cell(1, 4), 50);
+        refusedParks(p, cells);
         Check.tape(p, cells);
         due("park: as told", p.park(4, 4), true);
         due("park: tape is empty", p.count(9), 0);
@@ -159,9 +147,40 @@ public final class PromisesTest {
             due("park: 16 by " + h, p.park(16, h), true);
             due("park: h", p.count(1), h);
         }
-        Check.tape(p, "\0".repeat(68));
-        due("park: 17 wide", p.park(17, 4), false);
-        due("park: 17 deep", p.park(4, 17), false);
+    }
+
+    /** Every way in which park() answers false: THE PARK stays, the tape is empty behind it. */
+    private static void refusedParks(GrassPark p, String cells) {
+        String row = "\0".repeat(4);
+        refusedPark(p, "", 0, 0);
+        refusedPark(p, "", 4, 4);
+        refusedPark(p, row.repeat(5), 0, 0);
+        refusedPark(p, row.repeat(3), 4, 3);
+        refusedPark(p, row.repeat(3), 3, 4);
+        refusedPark(p, row.repeat(17), 17, 4);
+        refusedPark(p, row.repeat(17), 4, 17);
+        refusedPark(p, cells, -4, -4);
+        refusedPark(p, cells, 1 << 16, 1 << 16);
+        refusedPark(p, cells, Integer.MIN_VALUE, Integer.MAX_VALUE);
+        refusedPark(p, cells, 5, 4);
+        refusedPark(p, cells.substring(1), 4, 4);
+        refusedPark(p, cells + "\0", 4, 4);
+        refusedPark(p, "\0".repeat(440), 16, 16);
+        for (char noKind : new char[] {7, 15, 23, 255}) {
+            refusedPark(p, noKind + cells.substring(1), 4, 4);
+            refusedPark(p, cells.substring(0, 15) + noKind, 4, 4);
+        }
+    }
+
+    private static void refusedPark(GrassPark p, String tape, int w, int h) {
+        String before = all(p);
+        String name = "park: " + tape.length() + " bytes as " + w + " by " + h;
+        Check.tape(p, tape);
+        due(name, p.park(w, h), false);
+        due(name + ": tape", p.count(9), 0);
+        due(name + ": the next feed", p.feed(0, 0, 0, 0, 0), 20);
+        due(name + ": all stays", all(p).equals(before), true);
+        p.end(0);
     }
 
     private static void door() {
