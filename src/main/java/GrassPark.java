@@ -702,6 +702,8 @@ public final class GrassPark {
         static final int MOST_BYTES = 400;
         static final int MOST_ONES = 40;
         static final int MOST_WITHIN = 10;
+        /** More than anything that is asked, which is never below 0. */
+        static final int NO_BOUND = 2147483647;
 
         /** The types of TOKENS; a sign's type is its own byte. */
         static final int END = 0;
@@ -1018,11 +1020,11 @@ public final class GrassPark {
             }
             int n = values[now];
             if (sign == '<') {
-                emit(ask, Integer.MIN_VALUE, n - 1);
+                emit(ask, 0, n - 1);
             } else if (sign == '=') {
                 emit(ask, n, n);
             } else {
-                emit(ask, n + 1, Integer.MAX_VALUE);
+                emit(ask, n + 1, NO_BOUND);
             }
             goOn();
             return true;

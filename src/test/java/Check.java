@@ -79,6 +79,22 @@ final class Check {
         return p;
     }
 
+    /** A chain of CELLS of 16 by 16: each is beside the one ahead and the one behind it alone. */
+    static int[] chain() {
+        int[] chain = new int[120];
+        int n = 1;
+        for (int y = 0; y < 16; y += 2) {
+            boolean right = y % 4 == 0;
+            for (int k = 1; k <= 14; k++) {
+                chain[n++] = 16 * y + (right ? k : 15 - k);
+            }
+            if (y < 14) {
+                chain[n++] = 16 * (y + 1) + (right ? 15 : 0);
+            }
+        }
+        return chain;
+    }
+
     static int end(String test) {
         System.out.println(test + ": " + asked + " answers asked for, " + wrong + " wrong");
         return wrong == 0 ? 0 : 1;
