@@ -426,6 +426,7 @@ public final class EdgesTest {
         due("drop 24", p.drop(24), false);
         due("drop -1", p.drop(-1), false);
         due("they are less", p.count(3), 21);
+        due("their numbers stay, so there are 24", p.wish(0, 1, 0, 1, 0), -1);
         p.run(24);
         due("22 and the others are as they were", p.walker(p.count(4) - 1, 1), 22);
         due("21 began", p.count(6) + p.count(4), 21);
@@ -1280,6 +1281,36 @@ public final class EdgesTest {
             Check.bytes(p, tapes[i]);
             due("fits " + Arrays.toString(tapes[i]), p.fits(0, 1), i == 0 ? 63 - 16 : 0);
         }
+        fitsOfLostOnes();
+    }
+
+    /** A WAY that goes just over the told CELLS and then no more is one of them too. */
+    private static void fitsOfLostOnes() {
+        GrassPark p = lawn(4, 4, 0, 3);
+        for (int c : new int[] {2, 6}) {
+            p.lay(c, 1);
+        }
+        Check.habit(p, 0, "never gravel or height > 0;");
+        Check.habit(p, 2, "never not grass; weigh come 99; weigh turn 99;");
+        p.lay(4, 3);
+        p.lay(5, 3);
+        p.lay(10, 3);
+        p.lay(9, 3);
+        p.lay(8, 3);
+        Check.habit(p, 3, "never gravel or trod > 0;");
+        due("a lost way", p.way(0, 1, 0), -1);
+        due("its first step", p.wayAt(1), 1);
+        due("it goes back and forth", p.wayAt(200), 0);
+        int[] forthAndBack = new int[200];
+        for (int i = 0; i < 200; i++) {
+            forthAndBack[i] = i % 2 == 0 ? 1 : 0;
+        }
+        Check.bytes(p, forthAndBack);
+        due("fits of lost ones", p.fits(0, 1), 1 + 4 + 8);
+        Check.bytes(p, Arrays.copyOf(forthAndBack, 199));
+        due("fits of lost ones, cut off", p.fits(0, 1), 0);
+        Check.bytes(p, 1, 2, 3);
+        due("fits of those that arrive", p.fits(0, 1), 63 - 1 - 4 - 8);
     }
 
     // ---- promises 34 to 36

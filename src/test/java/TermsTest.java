@@ -873,6 +873,13 @@ public final class TermsTest {
         due("5 without one that holds", r.cell(11, 3), 7);
         due("steps on the goal too", r.cell(11, 5), 3);
         due("none on the door one begins on", r.cell(10, 5) + r.cell(10, 3), 0);
+        GrassPark t = field(0);
+        Check.law(t, "wear 30 if trod = 0; wear 7 if wear = 30; wear 100;");
+        t.wish(0, 2, 0, 1, 0);
+        for (int w : new int[] {30, 37, 137}) {
+            t.run(1);
+            due("cond of the cell ahead of the step", t.cell(11, 3), w);
+        }
     }
 
     private static void weeks() {
